@@ -14,15 +14,18 @@ public final class LimbWorks {
     private static final int FED_BYTES = 20;
     private static final int OUT_BYTES = 20000;
 
+    /** A piece has 25 bits at least, and more than 6 bits for each byte of out are refused before they are cut. */
+    private static final int MOST_PIECES = 4800;
+
     /** Roots are tried out by powers of up to 200040 bits, and sums and products have a word to spare. */
     private static final int ROW_WORDS = 6272;
     private static final long LOW = 0xFFFFFFFFL;
 
     private final Natural[] registers = new Natural[REGISTERS];
     private final Natural spare = new Natural();
-    private final Natural pieces = new Natural();
     private final Bench bench = new Bench();
     private final Roots roots = new Roots();
+    private final int[] pieces = new int[MOST_PIECES];
     private final byte[] tape = new byte[TAPE_BYTES];
     private final byte[] out = new byte[OUT_BYTES];
     private int tapeLength = 0;
@@ -155,11 +158,11 @@ public final class LimbWorks {
     public int write(int a, int base) throws IllegalArgumentException, IllegalStateException {
         Natural source = registerAt(a);
         requireRange(base, LEAST_BASE, MOST_BASE);
-        // More bits than these are surely too many digits, and fewer fit the row of pieces.
+        // No digit has more bits than base - 1, so what has more than this has surely too many digits.
         refuseBeyond(source.countBits(), OUT_BYTES * bitsOf(base - 1));
         int digits = digitsOfPiece(base);
-        cutIntoPieces(source, powerOf(base, digits));
-        int count = countDigits(base, digits);
+        int pieceCount = cutIntoPieces(source, powerOf(base, digits));
+        int count = countDigits(pieceCount, base, digits);
         refuseBeyond(count, OUT_BYTES);
         writeDigits(count, base, digits);
         outLength = count;
@@ -262,23 +265,23 @@ public final class LimbWorks {
         return power;
     }
 
-    /** The pieces become the digits of a number in a base of up to 31 bits, the lowest first. */
-    private void cutIntoPieces(Natural a, int base) {
+    /** The pieces become the digits of a in a base of up to 31 bits, the lowest first, one at least; how many? */
+    private int cutIntoPieces(Natural a, int base) {
         spare.putSame(a);
-        int count = 0;
-        while (spare.length > 0 && count < ROW_WORDS) {
-            pieces.words[count] = spare.reduce(base);
+        pieces[0] = spare.reduce(base);
+        int count = 1;
+        while (spare.length > 0 && count < MOST_PIECES) {
+            pieces[count] = spare.reduce(base);
             count++;
         }
-        pieces.trim(count);
+        return count;
     }
 
-    private int countDigits(int base, int digits) {
-        if (pieces.length == 0) {
-            return 1;
-        }
-        int count = (pieces.length - 1) * digits;
-        for (int top = pieces.words[pieces.length - 1]; top > 0; top /= base) {
+    private int countDigits(int pieceCount, int base, int digits) {
+        int count = (pieceCount - 1) * digits + 1;
+        int top = pieces[pieceCount - 1] / base;
+        for (int i = 1; i < digits && top > 0; i++) {
+            top /= base;
             count++;
         }
         return count;
@@ -288,8 +291,7 @@ public final class LimbWorks {
         int piece = 0;
         for (int i = 0; i < count; i++) {
             if (i % digits == 0) {
-                int k = i / digits;
-                piece = k < pieces.length ? pieces.words[k] : 0;
+                piece = pieces[i / digits];
             }
             int digit = piece % base;
             piece /= base;
@@ -402,6 +404,23 @@ public final class LimbWorks {
             trim(count);
         }
 
+        void putOnes(int bits) {
+            int full = bits / 32;
+            Arrays.fill(words, 0, full, -1);
+            words[full] = (1 << bits % 32) - 1;
+            trim(full + 1);
+        }
+
+        /** This is not 0. */
+        void takeOne() {
+            boolean owed = true;
+            for (int i = 0; i < length && owed; i++) {
+                owed = words[i] == 0;
+                words[i]--;
+            }
+            trim(length);
+        }
+
         /** This becomes this times factor plus more; neither is below 0. */
         void scale(int factor, int more) {
             long carry = more;
@@ -416,11 +435,12 @@ public final class LimbWorks {
 
         /** This becomes this over divisor, which is above 0, rounded down; answers what is left. */
         int reduce(int divisor) {
+            int[] w = words;
             long rest = 0;
             for (int i = length - 1; i >= 0; i--) {
-                long part = rest << 32 | words[i] & LOW;
+                long part = rest << 32 | w[i] & LOW;
                 long share = part / divisor;
-                words[i] = (int) share;
+                w[i] = (int) share;
                 rest = part - share * divisor;
             }
             trim(length);
@@ -430,24 +450,35 @@ public final class LimbWorks {
 
     /**
      * The one long row in which products and quotients are worked out. A number in it is told by the place where it
-     * begins and by how many words it has, the lowest first.
+     * begins and by how many words it has, the lowest first; free tells from where on nothing is needed any more.
      */
     private static final class Bench {
-        private static final int BENCH_WORDS = 32768;
+        /** The dearest quotient takes less than 25800 with all its scratch, the dearest product less. */
+        private static final int BENCH_WORDS = 28672;
+        private static final int HALVED_PRODUCT = 40;
+        private static final int HALVED_QUOTIENT = 80;
+        private static final int MOST_HALVINGS = 20;
 
         private final int[] row = new int[BENCH_WORDS];
 
         void putProduct(Natural target, Natural a, Natural b) {
             int an = a.length;
             int bn = b.length;
+            if (an == 0 || bn == 0) {
+                target.length = 0;
+                return;
+            }
+            // A square is known further down by its factors' common place.
+            int right = a == b ? 0 : an;
             int product = an + bn;
             System.arraycopy(a.words, 0, row, 0, an);
-            System.arraycopy(b.words, 0, row, an, bn);
-            multiplyPlain(product, 0, an, an, bn);
+            System.arraycopy(b.words, 0, row, right, bn);
+            multiply(product, 0, an, right, bn, product + an + bn, MOST_HALVINGS);
             System.arraycopy(row, product, target.words, 0, an + bn);
             target.trim(an + bn);
         }
 
+        /** The target is another number than the base. */
         void putPower(Natural target, Natural base, int n) {
             if (n == 0) {
                 target.putLong(1);
@@ -462,28 +493,28 @@ public final class LimbWorks {
             }
         }
 
-        /** quotient, then rest become a over b and what is left; b is not 0. Answers the bits of the quotient. */
+        /** quotient, and then rest, become a over b and what is left; b is not 0. Answers the quotient's bits. */
         int putQuotient(Natural quotient, Natural rest, Natural a, Natural b) {
             int dn = b.length;
-            int up = Integer.numberOfLeadingZeros(b.words[dn - 1]);
-            if (a.length < dn) {
-                rest.putSame(a);
-                if (quotient != rest) {
-                    quotient.length = 0;
-                }
-                return 0;
-            }
-            int qn = a.length + 1 - dn;
+            int qn = Math.max(0, a.length + 1 - dn);
             int d = a.length + 1;
             int q = d + dn + 1;
+            // The guesses of a quotient's words are good only if the divisor's highest bit is 1.
+            int up = 32 * dn - b.countBits();
             layMoved(0, a, up);
             layMoved(d, b, up);
-            dividePlain(q, 0, d, dn, qn);
+            int left = qn;
+            while (left > 0) {
+                int k = dn < HALVED_QUOTIENT ? left : (left - 1) % dn + 1;
+                left -= k;
+                divideRun(q + left, left, d, dn, k, q + qn, MOST_HALVINGS);
+            }
             System.arraycopy(row, q, quotient.words, 0, qn);
             quotient.trim(qn);
             int bits = quotient.countBits();
-            System.arraycopy(row, 0, rest.words, 0, dn);
-            rest.trim(dn);
+            int restLength = Math.min(dn, d);
+            System.arraycopy(row, 0, rest.words, 0, restLength);
+            rest.trim(restLength);
             rest.putMoved(rest, -up);
             return bits;
         }
@@ -499,6 +530,23 @@ public final class LimbWorks {
             row[at + a.length] = up == 0 ? 0 : below >>> 32 - up;
         }
 
+        /** The an + bn words at r become the an words at a times the bn words at b; each has one at least. */
+        private void multiply(int r, int a, int an, int b, int bn, int free, int halvings) {
+            int half = (Math.max(an, bn) + 1) / 2;
+            boolean isShort = Math.min(an, bn) < HALVED_PRODUCT || halvings == 0;
+            if (isShort && a == b) {
+                squarePlain(r, a, an);
+            } else if (isShort) {
+                multiplyPlain(r, a, an, b, bn);
+            } else if (an <= half) {
+                multiplyTwice(r, b, bn, a, an, free, halvings - 1);
+            } else if (bn <= half) {
+                multiplyTwice(r, a, an, b, bn, free, halvings - 1);
+            } else {
+                multiplyThrice(r, a, an, b, bn, free, halvings - 1);
+            }
+        }
+
         private void multiplyPlain(int r, int a, int an, int b, int bn) {
             Arrays.fill(row, r, r + an, 0);
             for (int i = 0; i < bn; i++) {
@@ -506,27 +554,131 @@ public final class LimbWorks {
             }
         }
 
-        private int addProduct(int at, int from, int count, long factor) {
-            long carry = 0;
-            int to = at;
-            for (int i = from; i < from + count; i++) {
-                carry += (row[i] & LOW) * factor + (row[to] & LOW);
-                row[to] = (int) carry;
-                carry >>>= 32;
-                to++;
+        /** Each product of two different words is needed twice, so it is made once and doubled. */
+        private void squarePlain(int r, int a, int an) {
+            int[] w = row;
+            Arrays.fill(w, r, r + 2 * an, 0);
+            for (int i = 0; i < an; i++) {
+                w[r + an + i] = addProduct(r + 2 * i + 1, a + i + 1, an - 1 - i, w[a + i] & LOW);
             }
-            return (int) carry;
+            long carry = 0;
+            for (int i = 0; i < an; i++) {
+                long word = w[a + i] & LOW;
+                long square = word * word;
+                carry += ((w[r + 2 * i] & LOW) << 1) + (square & LOW);
+                w[r + 2 * i] = (int) carry;
+                carry = (carry >>> 32) + ((w[r + 2 * i + 1] & LOW) << 1) + (square >>> 32);
+                w[r + 2 * i + 1] = (int) carry;
+                carry >>>= 32;
+            }
+        }
+
+        /** The longer factor a is cut in two, as b is not longer than its half. */
+        private void multiplyTwice(int r, int a, int an, int b, int bn, int free, int halvings) {
+            int half = (an + 1) / 2;
+            int upper = an - half + bn;
+            multiply(r, a, half, b, bn, free, halvings);
+            multiply(free, a + half, an - half, b, bn, free + upper, halvings);
+            Arrays.fill(row, r + half + bn, r + an + bn, 0);
+            addInto(r + half, upper, free, upper);
         }
 
         /**
-         * Divides the dn + k words at n by the dn words at d, whose highest bit is 1 and which are more than the
-         * highest dn words at n: k words of quotient come to q, what is left stays in the dn words at n.
+         * Both factors are cut at the same place, and three products do instead of four (Karatsuba): the mixed ones
+         * are the sum of the lower and the upper one less the product of the halves' differences.
          */
-        private void dividePlain(int q, int n, int d, int dn, int k) {
+        private void multiplyThrice(int r, int a, int an, int b, int bn, int free, int halvings) {
+            int half = (Math.max(an, bn) + 1) / 2;
+            int upper = an + bn - 2 * half;
+            int right = a == b ? r : r + half;
+            boolean leftBelow = layDifference(r, a, half, an - half);
+            boolean rightBelow = layDifference(right, b, half, bn - half);
+            int mixed = free + 2 * half;
+            multiply(free, r, half, right, half, mixed, halvings);
+            multiply(r, a, half, b, half, mixed, halvings);
+            multiply(r + 2 * half, a + half, an - half, b + half, bn - half, mixed, halvings);
+            int mixedLength = 2 * half + 1;
+            System.arraycopy(row, r, row, mixed, 2 * half);
+            row[mixed + 2 * half] = 0;
+            addInto(mixed, mixedLength, r + 2 * half, upper);
+            if (leftBelow == rightBelow) {
+                takeFrom(mixed, mixedLength, free, 2 * half);
+            } else {
+                addInto(mixed, mixedLength, free, 2 * half);
+            }
+            addInto(r + half, half + upper, mixed, Math.min(mixedLength, half + upper));
+        }
+
+        /**
+         * The half words at r become how far the half words at a and the other, not more, words behind them are
+         * apart; answers whether the first are less.
+         */
+        private boolean layDifference(int r, int a, int half, int other) {
+            int[] w = row;
+            long owed = 0;
+            for (int i = 0; i < half; i++) {
+                owed += (w[a + i] & LOW) - (i < other ? w[a + half + i] & LOW : 0);
+                w[r + i] = (int) owed;
+                owed >>= 32;
+            }
+            if (owed == 0) {
+                return false;
+            }
+            long carry = 1;
+            for (int i = r; i < r + half; i++) {
+                carry += ~w[i] & LOW;
+                w[i] = (int) carry;
+                carry >>>= 32;
+            }
+            return true;
+        }
+
+        /**
+         * Divides the dn + k words at n by the dn words at d, whose highest bit is 1; k is not more than dn if that is
+         * long. k words of the quotient come to q, and what is left stays in the dn words at n. Answers the
+         * quotient's next word, 0 or 1.
+         */
+        private int divideRun(int q, int n, int d, int dn, int k, int free, int halvings) {
+            if (k < HALVED_QUOTIENT || dn < HALVED_QUOTIENT || halvings == 0) {
+                return dividePlain(q, n, d, dn, k);
+            }
+            if (k < dn) {
+                return divideByHead(q, n, d, dn, k, free, halvings - 1);
+            }
+            int low = k / 2;
+            int next = divideByHead(q + low, n + low, d, dn, k - low, free, halvings - 1);
+            divideByHead(q, n, d, dn, low, free, halvings - 1);
+            return next;
+        }
+
+        /**
+         * As divideRun, with k less than dn: the divisor's k highest words give a quotient that is at most a little
+         * too much, and the product with its other words is taken away afterwards.
+         */
+        private int divideByHead(int q, int n, int d, int dn, int k, int free, int halvings) {
+            int tail = dn - k;
+            int next = divideRun(q, n + tail, d + tail, k, k, free, halvings);
+            multiply(free, q, k, d, tail, free + dn, MOST_HALVINGS);
+            int owed = takeFrom(n, dn, free, dn);
+            if (next != 0) {
+                owed += takeFrom(n + k, tail, d, tail);
+            }
+            for (int i = 0; i < 4 && owed > 0; i++) {
+                next -= takeOne(q, k);
+                owed -= addInto(n, dn, d, dn);
+            }
+            return next;
+        }
+
+        private int dividePlain(int q, int n, int d, int dn, int k) {
+            int next = 0;
+            if (isNotLess(n + k, d, dn)) {
+                takeFrom(n + k, dn, d, dn);
+                next = 1;
+            }
             for (int i = k - 1; i >= 0; i--) {
                 long guess = guessWord(n + i, d, dn);
-                long borrow = takeProduct(n + i, d, dn, guess);
-                long top = (row[n + i + dn] & LOW) - borrow;
+                long top = (row[n + i + dn] & LOW) - takeProduct(n + i, d, dn, guess);
                 if (top < 0) {
                     guess--;
                     top += addInto(n + i, dn, d, dn);
@@ -534,14 +686,14 @@ public final class LimbWorks {
                 row[n + i + dn] = (int) top;
                 row[q + i] = (int) guess;
             }
+            return next;
         }
 
-        /** The next word of a quotient, at times one too much: the highest words alone are looked at. */
+        /** The next word of a quotient, at times one too much: only the highest words are looked at. */
         private long guessWord(int n, int d, int dn) {
             long high = row[n + dn] & LOW;
-            long next = row[n + dn - 1] & LOW;
             long first = row[d + dn - 1] & LOW;
-            long both = high << 32 | next;
+            long both = high << 32 | row[n + dn - 1] & LOW;
             long guess = high >= first ? LOW : Long.divideUnsigned(both, first);
             long left = both - guess * first;
             if (dn == 1) {
@@ -559,44 +711,106 @@ public final class LimbWorks {
             return guess;
         }
 
-        private long takeProduct(int at, int from, int count, long factor) {
-            long borrow = 0;
-            int to = at;
-            for (int i = from; i < from + count; i++) {
-                long product = (row[i] & LOW) * factor + borrow;
-                long left = (row[to] & LOW) - (product & LOW);
-                row[to] = (int) left;
-                borrow = (product >>> 32) + (left >>> 63);
-                to++;
+        private boolean isNotLess(int a, int b, int count) {
+            for (int i = count - 1; i >= 0; i--) {
+                if (row[a + i] != row[b + i]) {
+                    return Integer.compareUnsigned(row[a + i], row[b + i]) > 0;
+                }
             }
-            return borrow;
+            return true;
         }
 
-        private int addInto(int at, int atCount, int from, int count) {
+        /** Adds the count words at from, times factor, to those at at; answers the word that is carried on. */
+        private int addProduct(int at, int from, int count, long factor) {
+            int[] w = row;
+            int end = from + count;
+            int to = at;
             long carry = 0;
-            for (int i = 0; i < count; i++) {
-                carry += (row[at + i] & LOW) + (row[from + i] & LOW);
-                row[at + i] = (int) carry;
+            for (int i = from; i < end; i++) {
+                carry += (w[i] & LOW) * factor + (w[to] & LOW);
+                w[to] = (int) carry;
+                carry >>>= 32;
+                to++;
+            }
+            return (int) carry;
+        }
+
+        /** Takes the count words at from, times factor, from those at at; answers the word that is owed. */
+        private long takeProduct(int at, int from, int count, long factor) {
+            int[] w = row;
+            int end = from + count;
+            int to = at;
+            long owed = 0;
+            for (int i = from; i < end; i++) {
+                owed += (w[i] & LOW) * factor;
+                long left = (w[to] & LOW) - (owed & LOW);
+                w[to] = (int) left;
+                owed = (owed >>> 32) + (left >>> 63);
+                to++;
+            }
+            return owed;
+        }
+
+        /** Adds the count words at from to the atCount, not fewer, at at; answers what is carried on. */
+        private int addInto(int at, int atCount, int from, int count) {
+            int[] w = row;
+            int shift = from - at;
+            int end = at + count;
+            long carry = 0;
+            for (int i = at; i < end; i++) {
+                carry += (w[i] & LOW) + (w[i + shift] & LOW);
+                w[i] = (int) carry;
                 carry >>>= 32;
             }
-            for (int i = count; i < atCount && carry != 0; i++) {
-                carry += row[at + i] & LOW;
-                row[at + i] = (int) carry;
+            for (int i = end; i < at + atCount && carry != 0; i++) {
+                carry += w[i] & LOW;
+                w[i] = (int) carry;
                 carry >>>= 32;
             }
             return (int) carry;
         }
+
+        /** Takes the count words at from from the atCount, not fewer, at at; answers what is owed: 0 or 1. */
+        private int takeFrom(int at, int atCount, int from, int count) {
+            int[] w = row;
+            int shift = from - at;
+            int end = at + count;
+            long owed = 0;
+            for (int i = at; i < end; i++) {
+                owed += (w[i] & LOW) - (w[i + shift] & LOW);
+                w[i] = (int) owed;
+                owed >>= 32;
+            }
+            for (int i = end; i < at + atCount && owed != 0; i++) {
+                owed += w[i] & LOW;
+                w[i] = (int) owed;
+                owed >>= 32;
+            }
+            return (int) -owed;
+        }
+
+        private int takeOne(int at, int count) {
+            for (int i = at; i < at + count; i++) {
+                row[i]--;
+                if (row[i] != -1) {
+                    return 0;
+                }
+            }
+            return 1;
+        }
     }
 
     /**
-     * Finds the n-th root of a number from its highest bits down: the root of a's highest bits is the highest bits of
-     * a's root, and Newton's step from there finds about as many bits more.
+     * Finds roots from their highest bits down: the root of a number's highest bits is its root's highest bits, and
+     * one step of Newton's from there gives about as many bits more.
      */
     private static final class Roots {
-        private final Natural below = new Natural();
+        /** The part of the root that is known to the powers of n - 1 and of n. */
+        private final Natural lesser = new Natural();
         private final Natural whole = new Natural();
         private final Natural part = new Natural();
 
+        /** The root is another number than a. */
         void putRoot(Natural root, Natural a, int n, Bench bench) {
             int bits = a.countBits();
             if (n == 1 || bits == 0) {
@@ -604,45 +818,60 @@ public final class LimbWorks {
                 return;
             }
             int all = (bits + n - 1) / n;
-            // With so many bits more than half of those wanted, a step is never more than one too far.
-            int guard = bitsOf(n) + 1;
-            root.putLong(1);
             int known = 1;
-            below.putLong(1);
+            root.putLong(1);
+            lesser.putLong(1);
             whole.putLong(1);
             while (known < all) {
-                int next = Math.min(all, Math.max(known + 1, 2 * known - guard));
-                extend(root, a, n, bench, next - known, (all - next) * n);
-                known = next;
+                int more = Math.max(1, nextLength(known, all, n) - known);
+                known += more;
+                int hidden = (all - known) * n;
+                layStep(a, n, more, hidden);
+                bench.putQuotient(part, whole, part, lesser);
+                lengthen(root, more);
+                part.putMoved(a, -hidden);
+                boolean fits = false;
+                for (int i = 0; i < 4 && !fits; i++) {
+                    bench.putPower(lesser, root, n - 1);
+                    bench.putProduct(whole, n == 2 ? root : lesser, root);
+                    fits = whole.order(part) <= 0;
+                    if (!fits) {
+                        root.takeOne();
+                    }
+                }
             }
         }
 
-        private void extend(Natural root, Natural a, int n, Bench bench, int more, int hidden) {
+        /**
+         * How many bits of the root the next step finds. A step from known bits to not more than reach is never more
+         * than one too far. The lengths are halved backwards from all, for a step costs by its length, and so the
+         * one before the last is no longer than it must be.
+         */
+        private static int nextLength(int known, int all, int n) {
+            int guard = bitsOf(n) + 1;
+            int reach = 2 * known - guard;
+            int next = all;
+            for (int i = 0; i < 20 && next > reach; i++) {
+                next = (next + guard + 1) / 2;
+            }
+            return Math.min(next, reach);
+        }
+
+        /** Newton's step is what part becomes over what lesser becomes; hidden are the bits of a not looked at yet. */
+        private void layStep(Natural a, int n, int more, int hidden) {
             part.putMoved(a, -hidden - more * (n - 1));
             whole.putMoved(whole, more);
             part.putDifference(part, whole);
-            below.scale(n, 0);
-            bench.putQuotient(part, whole, part, below);
+            lesser.scale(n, 0);
+        }
+
+        /** The root gets the bits in part behind its own, all ones if part has too many. */
+        private void lengthen(Natural root, int more) {
             if (part.countBits() > more) {
-                part.putLong(1);
-                part.putMoved(part, more);
-                below.putLong(1);
-                part.putDifference(part, below);
+                part.putOnes(more);
             }
             root.putMoved(root, more);
             root.putSum(root, part);
-            raise(root, n, bench);
-            part.putMoved(a, -hidden);
-            if (whole.order(part) > 0) {
-                below.putLong(1);
-                root.putDifference(root, below);
-                raise(root, n, bench);
-            }
-        }
-
-        private void raise(Natural root, int n, Bench bench) {
-            bench.putPower(below, root, n - 1);
-            bench.putProduct(whole, below, root);
         }
     }
 }

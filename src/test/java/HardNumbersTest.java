@@ -1,0 +1,193 @@
+import java.math.BigInteger;
+import java.util.Random;
+
+/**
+ * Promises 7 to 10 where the ways of working them out change or correct themselves: lengths about the halved products
+ * and quotients, divisors whose highest words mislead, roots next to whole powers.
+ */
+public final class HardNumbersTest {
+    private static final int[] WORDS = {1, 2, 3, 39, 40, 41, 79, 80, 81, 82, 119, 159, 160, 161, 162, 239, 320, 323, 641,
+        1000, 1600, 2500, 3125};
+
+    private final Random random = new Random(20261115);
+    private final LimbWorks works = new LimbWorks();
+
+    private HardNumbersTest() {
+    }
+
+    public static void main(String[] args) {
+        HardNumbersTest test = new HardNumbersTest();
+        test.productsOfAllLengths();
+        test.quotientsOfAllLengths();
+        test.quotientsOfMisleadingDivisors();
+        test.powersOfAllLengths();
+        test.rootsNextToPowers();
+        Checks.finish("HardNumbersTest");
+    }
+
+    private void holds(String what, int register, BigInteger due) {
+        Checks.same(what, due, Numbers.value(works, register));
+    }
+
+    private BigInteger ofWords(int words, int kind) {
+        int bits = 32 * words;
+        switch (kind) {
+            case 0:
+                return BigInteger.ONE.shiftLeft(bits).subtract(BigInteger.ONE);
+            case 1:
+                return BigInteger.ONE.shiftLeft(bits - 1);
+            case 2:
+                return Numbers.runs(random, bits).setBit(bits - 1);
+            case 3:
+                return Numbers.runs(random, bits).setBit(bits - 32);
+            default:
+                return new BigInteger(bits, random).setBit(bits - 1 - random.nextInt(32));
+        }
+    }
+
+    private void productsOfAllLengths() {
+        for (int an : WORDS) {
+            for (int bn : WORDS) {
+                BigInteger a = ofWords(an, random.nextInt(5));
+                BigInteger b = ofWords(bn, random.nextInt(5));
+                Numbers.plant(works, 0, 9, a);
+                Numbers.plant(works, 1, 9, b);
+                checkProduct(a, b);
+            }
+            for (int kind = 0; kind < 5; kind++) {
+                BigInteger a = ofWords(an, kind);
+                Numbers.plant(works, 0, 9, a);
+                Checks.due("square of " + an, a.multiply(a).bitLength(), () -> works.times(2, 0, 0));
+                holds("square of " + an, 2, a.multiply(a));
+            }
+        }
+        for (int an = 20; an < 6250; an += 1 + an / 12) {
+            BigInteger a = ofWords(an, 4);
+            BigInteger b = ofWords(6250 - an, random.nextInt(5));
+            Numbers.plant(works, 0, 9, a);
+            Numbers.plant(works, 1, 9, b);
+            checkProduct(a, b);
+        }
+    }
+
+    private void checkProduct(BigInteger a, BigInteger b) {
+        String name = "times of " + a.bitLength() + " and " + b.bitLength() + " bits";
+        Checks.due(name, a.multiply(b).bitLength(), () -> works.times(2, 0, 1));
+        holds(name, 2, a.multiply(b));
+        Checks.due(name, a.multiply(b).bitLength(), () -> works.times(2, 1, 0));
+        holds(name, 2, a.multiply(b));
+    }
+
+    private void checkQuotient(BigInteger a, BigInteger b) {
+        Numbers.plant(works, 0, 9, a);
+        Numbers.plant(works, 1, 9, b);
+        BigInteger[] due = a.divideAndRemainder(b);
+        String name = "divide of " + a.bitLength() + " by " + b.bitLength() + " bits";
+        Checks.due(name, due[0].bitLength(), () -> works.divide(2, 3, 0, 1));
+        holds(name + ": quotient", 2, due[0]);
+        holds(name + ": rest", 3, due[1]);
+    }
+
+    private void quotientsOfAllLengths() {
+        for (int dn : WORDS) {
+            for (int qn : WORDS) {
+                if (dn + qn <= 6250) {
+                    checkQuotient(ofWords(dn + qn, random.nextInt(5)), ofWords(dn, random.nextInt(5)));
+                    checkQuotientOfProduct(dn, qn);
+                }
+            }
+        }
+        for (int dn = 1; dn < 6250; dn += 1 + dn / 9) {
+            checkQuotient(ofWords(6250, random.nextInt(5)), ofWords(dn, random.nextInt(5)));
+        }
+    }
+
+    /** A quotient that is whole, or just not: the guesses from the highest words are then often too much. */
+    private void checkQuotientOfProduct(int dn, int qn) {
+        BigInteger d = ofWords(dn, random.nextInt(5));
+        BigInteger q = ofWords(qn, random.nextInt(5));
+        BigInteger a = d.multiply(q);
+        checkQuotient(a, d);
+        checkQuotient(a.subtract(BigInteger.ONE), d);
+        checkQuotient(a.add(d).subtract(BigInteger.ONE), d);
+    }
+
+    /** Divisors that begin with 100..0 and go on with ones, under dividends that begin as they do. */
+    private void quotientsOfMisleadingDivisors() {
+        for (int round = 0; round < 400; round++) {
+            int dn = 2 + random.nextInt(round % 4 == 0 ? 400 : 6);
+            int head = 1 + random.nextInt(32 * dn - 1);
+            BigInteger ones = BigInteger.ONE.shiftLeft(32 * dn - head).subtract(BigInteger.ONE);
+            BigInteger d = BigInteger.ONE.shiftLeft(32 * dn - 1 - random.nextInt(2)).or(ones);
+            int qn = 1 + random.nextInt(round % 4 == 0 ? 400 : 6);
+            BigInteger q = ofWords(qn, random.nextInt(5));
+            BigInteger same = d.shiftLeft(32 * qn).subtract(BigInteger.ONE.shiftLeft(random.nextInt(32 * qn)));
+            checkQuotient(same, d);
+            checkQuotient(d.multiply(q).subtract(BigInteger.ONE), d);
+            checkQuotient(d.multiply(q).add(d).subtract(BigInteger.ONE), d);
+        }
+    }
+
+    private void powersOfAllLengths() {
+        for (int n = 0; n <= 100; n += 1 + n / 10) {
+            for (int bits : new int[] {1, 2, 31, 64, 65, 700, 200000 / Math.max(1, n)}) {
+                if (n * bits <= 200000) {
+                    BigInteger a = new BigInteger(bits, random).setBit(bits - 1);
+                    Numbers.plant(works, 0, 9, a);
+                    int exponent = n;
+                    String name = "power " + n + " of " + bits + " bits";
+                    Checks.due(name, a.pow(n).bitLength(), () -> works.power(2, 0, exponent));
+                    holds(name, 2, a.pow(n));
+                }
+            }
+        }
+    }
+
+    private void rootsNextToPowers() {
+        for (int n = 1; n <= 40; n++) {
+            for (int bits = 1; bits * n <= 200000; bits += 1 + bits * 2 / 3) {
+                for (int kind = 0; kind < 4; kind++) {
+                    rootsNextTo(rootOf(bits, kind), n);
+                }
+            }
+            for (int round = 0; round < 4; round++) {
+                checkRoot(new BigInteger(200000 - random.nextInt(100), random), n);
+                checkRoot(Numbers.runs(random, 200000), n);
+            }
+        }
+    }
+
+    private BigInteger rootOf(int bits, int kind) {
+        switch (kind) {
+            case 0:
+                return BigInteger.ONE.shiftLeft(bits).subtract(BigInteger.ONE);
+            case 1:
+                return BigInteger.ONE.shiftLeft(bits - 1);
+            case 2:
+                return Numbers.runs(random, bits).setBit(bits - 1);
+            default:
+                return new BigInteger(bits, random).setBit(bits - 1);
+        }
+    }
+
+    private void rootsNextTo(BigInteger root, int n) {
+        BigInteger power = root.pow(n);
+        checkRootIs(power, n, root);
+        checkRootIs(power.subtract(BigInteger.ONE), n, root.subtract(BigInteger.ONE));
+        BigInteger last = root.add(BigInteger.ONE).pow(n).subtract(BigInteger.ONE);
+        if (last.bitLength() <= Numbers.MOST_BITS) {
+            checkRootIs(last, n, root);
+        }
+    }
+
+    private void checkRoot(BigInteger a, int n) {
+        checkRootIs(a, n, Numbers.root(a, n));
+    }
+
+    private void checkRootIs(BigInteger a, int n, BigInteger due) {
+        Numbers.plant(works, 0, 9, a);
+        String name = "root " + n + " of " + a.bitLength() + " bits";
+        Checks.due(name, due.bitLength(), () -> works.root(2, 0, n));
+        holds(name, 2, due);
+    }
+}

@@ -1,0 +1,58 @@
+import java.io.IOException;
+import java.nio.file.Files;
+import java.nio.file.Path;
+import java.util.List;
+import java.util.Set;
+import java.util.regex.Matcher;
+import java.util.regex.Pattern;
+
+/** Those rules of LANGUAGE.md that can be told from the source's text alone; run from the project's folder. */
+public final class LanguageTest {
+    private static final Path SOURCE = Path.of("src/main/java/LimbWorks.java");
+    private static final Set<String> IMPORTS = Set.of("java.util.Arrays", "java.util.NoSuchElementException");
+    private static final List<String> FORBIDDEN = List.of("->", "::", "\\bfinally\\b", "\\bsynchronized\\b",
+            "\\bassert\\b", "\\bprotected\\b", "\\bpackage\\b", "\\btry\\b", "Exact\\(", "\\bstatic \\{", "\\bString\\b",
+            "\\bSystem\\.(?!arraycopy\\()", "\\bArrays\\.(?!fill\\()", "\\bdouble\\b", "\\bfloat\\b");
+
+    private LanguageTest() {
+    }
+
+    public static void main(String[] args) throws IOException {
+        String code = Files.readString(SOURCE).replaceAll("(?s)/\\*.*?\\*/", "").replaceAll("//.*", "");
+        for (String word : FORBIDDEN) {
+            Checks.same("no " + word, false, Pattern.compile(word).matcher(code).find());
+        }
+        Matcher imports = Pattern.compile("import ([\\w.]+);").matcher(code);
+        while (imports.find()) {
+            Checks.same("import " + imports.group(1), true, IMPORTS.contains(imports.group(1)));
+        }
+        checkStaticFields(code);
+        checkMethods(code);
+        Checks.finish("LanguageTest");
+    }
+
+    private static void checkStaticFields(String code) {
+        Matcher fields = Pattern.compile("(?m)^ +(.*\\bstatic\\b.*(=.*)?;)$").matcher(code);
+        while (fields.find()) {
+            boolean constant = fields.group(1).matches("private static final (int|long) [A-Z_]+ = .*");
+            Checks.same("a constant: " + fields.group(1), true, constant);
+        }
+    }
+
+    /** A method begins behind 4 or 8 spaces and ends at the brace behind as many. */
+    private static void checkMethods(String code) {
+        String opening = "(?m)^( {4}| {8})((?:public |private )?(?:static )?\\w+(?:\\[\\])? ?\\w*)\\(([^)]*)\\)[^;{]*\\{$";
+        Matcher methods = Pattern.compile(opening).matcher(code);
+        int count = 0;
+        while (methods.find()) {
+            count++;
+            String name = methods.group(2);
+            int parameters = methods.group(3).isEmpty() ? 0 : methods.group(3).split(",").length;
+            Checks.same("parameters of " + name + ": " + parameters, true, parameters <= 7);
+            int end = code.indexOf("\n" + methods.group(1) + "}", methods.start());
+            int lines = code.substring(methods.start(), end).split("\n").length;
+            Checks.same("lines of " + name + ": " + lines, true, lines <= 60);
+        }
+        Checks.same("methods seen: " + count, true, count > 40);
+    }
+}
