@@ -14,6 +14,9 @@ public final class LimbWorks {
     private static final int FED_BYTES = 20;
     private static final int OUT_BYTES = 20000;
 
+    /** The digits of a piece, as many as make no more than this, are read and written at once. */
+    private static final int MOST_PIECE = 0x7FFFFFFF;
+
     /** A piece has 25 bits at least, and more than 6 bits for each byte of out are refused before they are cut. */
     private static final int MOST_PIECES = 4800;
 
@@ -246,11 +249,11 @@ public final class LimbWorks {
         }
     }
 
-    /** How many digits of a base are sure to fit 31 bits. */
+    /** How many digits of a base make a piece. */
     private static int digitsOfPiece(int base) {
         int digits = 1;
         int power = base;
-        for (int i = 1; i < 31 && power <= Integer.MAX_VALUE / base; i++) {
+        for (int i = 1; i < 31 && power <= MOST_PIECE / base; i++) {
             power *= base;
             digits++;
         }

@@ -29,19 +29,23 @@ public final class HardNumbersTest {
         Checks.same(what, due, Numbers.value(works, register));
     }
 
+    /** A number whose highest word is not 0. */
     private BigInteger ofWords(int words, int kind) {
-        int bits = 32 * words;
+        int idle = kind < 3 ? 0 : kind == 3 ? 31 : random.nextInt(32);
+        return ofBits(32 * words - idle, kind);
+    }
+
+    private BigInteger ofBits(int bits, int kind) {
         switch (kind) {
             case 0:
                 return BigInteger.ONE.shiftLeft(bits).subtract(BigInteger.ONE);
             case 1:
                 return BigInteger.ONE.shiftLeft(bits - 1);
             case 2:
-                return Numbers.runs(random, bits).setBit(bits - 1);
             case 3:
-                return Numbers.runs(random, bits).setBit(bits - 32);
+                return Numbers.runs(random, bits).setBit(bits - 1);
             default:
-                return new BigInteger(bits, random).setBit(bits - 1 - random.nextInt(32));
+                return new BigInteger(bits, random).setBit(bits - 1);
         }
     }
 
@@ -146,27 +150,14 @@ public final class HardNumbersTest {
     private void rootsNextToPowers() {
         for (int n = 1; n <= 40; n++) {
             for (int bits = 1; bits * n <= 200000; bits += 1 + bits * 2 / 3) {
-                for (int kind = 0; kind < 4; kind++) {
-                    rootsNextTo(rootOf(bits, kind), n);
+                for (int kind : new int[] {0, 1, 2, 4}) {
+                    rootsNextTo(ofBits(bits, kind), n);
                 }
             }
             for (int round = 0; round < 4; round++) {
                 checkRoot(new BigInteger(200000 - random.nextInt(100), random), n);
                 checkRoot(Numbers.runs(random, 200000), n);
             }
-        }
-    }
-
-    private BigInteger rootOf(int bits, int kind) {
-        switch (kind) {
-            case 0:
-                return BigInteger.ONE.shiftLeft(bits).subtract(BigInteger.ONE);
-            case 1:
-                return BigInteger.ONE.shiftLeft(bits - 1);
-            case 2:
-                return Numbers.runs(random, bits).setBit(bits - 1);
-            default:
-                return new BigInteger(bits, random).setBit(bits - 1);
         }
     }
 

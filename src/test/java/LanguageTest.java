@@ -12,7 +12,8 @@ public final class LanguageTest {
     private static final Set<String> IMPORTS = Set.of("java.util.Arrays", "java.util.NoSuchElementException");
     private static final List<String> FORBIDDEN = List.of("->", "::", "\\bfinally\\b", "\\bsynchronized\\b",
             "\\bassert\\b", "\\bprotected\\b", "\\bpackage\\b", "\\btry\\b", "Exact\\(", "\\bstatic \\{", "\\bString\\b",
-            "\\bSystem\\.(?!arraycopy\\()", "\\bArrays\\.(?!fill\\()", "\\bdouble\\b", "\\bfloat\\b");
+            "\\bSystem\\.(?!arraycopy\\()", "\\bArrays\\.(?!fill\\()", "\\bdouble\\b", "\\bfloat\\b",
+            "\\b(Integer|Long|Math)\\.[A-Z]");
 
     private LanguageTest() {
     }
