@@ -55,8 +55,7 @@ public final class LimbWorks {
         Natural target = registerAt(register);
         Natural source = registerAt(a);
         requireRange(n, -MOST_BITS, MOST_BITS);
-        int bits = source.countBits();
-        refuseBeyond(bits == 0 ? 0 : bits + n, MOST_BITS);
+        refuseBeyond(source.countBits() + n, MOST_BITS);
         target.putMoved(source, n);
         return target.countBits();
     }
@@ -692,7 +691,7 @@ public final class LimbWorks {
             return next;
         }
 
-        /** The next word of a quotient, at times one too much: only the highest words are looked at. */
+        /** The next word of a quotient, at times one too much: the divisor's two highest words alone are looked at. */
         private long guessWord(int n, int d, int dn) {
             long high = row[n + dn] & LOW;
             long first = row[d + dn - 1] & LOW;
@@ -704,14 +703,9 @@ public final class LimbWorks {
             }
             long second = row[d + dn - 2] & LOW;
             long third = row[n + dn - 2] & LOW;
-            for (int i = 0; i < 2 && left <= LOW; i++) {
-                if (Long.compareUnsigned(guess * second, left << 32 | third) <= 0) {
-                    return guess;
-                }
-                guess--;
-                left += first;
-            }
-            return guess;
+            // From the first word alone it may be two too much, but then the second tells.
+            boolean isTooMuch = left <= LOW && Long.compareUnsigned(guess * second, left << 32 | third) > 0;
+            return isTooMuch ? guess - 1 : guess;
         }
 
         private boolean isNotLess(int a, int b, int count) {

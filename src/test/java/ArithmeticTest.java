@@ -232,7 +232,9 @@ public final class ArithmeticTest {
         works.set(5, 1);
         works.shift(6, 5, 2000);
         works.set(7, 9);
-        Checks.thrown("power of too many bits, whatever comes out", STATE, () -> works.power(7, 6, 100));
+        Checks.thrown("power of too many bits", STATE, () -> works.power(7, 6, 100));
+        works.shift(6, 5, 66666);
+        Checks.thrown("power of too many bits, whatever comes out", STATE, () -> works.power(7, 6, 3));
         Checks.due("the most bits to the power of 1", 200000, () -> works.power(8, 4, 1));
         holds("the most bits to the power of 1", works, 8, x.pow(100));
         Checks.thrown("the most bits to the power of 2", STATE, () -> works.power(7, 4, 2));

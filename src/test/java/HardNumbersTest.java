@@ -6,8 +6,10 @@ import java.util.Random;
  * and quotients, divisors whose highest words mislead, roots next to whole powers.
  */
 public final class HardNumbersTest {
-    private static final int[] WORDS = {1, 2, 3, 39, 40, 41, 79, 80, 81, 82, 119, 159, 160, 161, 162, 239, 320, 323, 641,
-        1000, 1600, 2500, 3125};
+    private static final int[] WORDS = {1, 2, 3, 39, 40, 41, 79, 80, 81, 82, 119, 159, 160, 161, 162, 239, 320, 323,
+        641, 1000, 1600, 2500, 3125};
+    private static final long[] EXTREME_WORDS = {0, 1, 2, 0x7FFFFFFFL, 0x80000000L, 0x80000001L, 0xFFFFFFFEL,
+        0xFFFFFFFFL};
 
     private final Random random = new Random(20261115);
     private final LimbWorks works = new LimbWorks();
@@ -20,6 +22,8 @@ public final class HardNumbersTest {
         test.productsOfAllLengths();
         test.quotientsOfAllLengths();
         test.quotientsOfMisleadingDivisors();
+        test.quotientsFarTooMuch();
+        test.quotientsOfExtremeWords();
         test.powersOfAllLengths();
         test.rootsNextToPowers();
         Checks.finish("HardNumbersTest");
@@ -130,6 +134,39 @@ public final class HardNumbersTest {
             checkQuotient(d.multiply(q).subtract(BigInteger.ONE), d);
             checkQuotient(d.multiply(q).add(d).subtract(BigInteger.ONE), d);
         }
+    }
+
+    /**
+     * What is left before the last half of the quotient begins with the divisor's upper half, twice, and the divisor's
+     * lower half, of a word more, is all ones: its upper half alone gives a quotient as far too much as can be.
+     */
+    private void quotientsFarTooMuch() {
+        for (int half : new int[] {40, 41, 80, 81, 100, 160, 200, 333, 640}) {
+            int lower = 32 * half + 32;
+            BigInteger upper = BigInteger.ONE.shiftLeft(32 * half - 1).add(new BigInteger(random.nextInt(20), random));
+            BigInteger d = upper.add(BigInteger.ONE).shiftLeft(lower).subtract(BigInteger.ONE);
+            BigInteger left = upper.shiftLeft(32 * half).add(upper).shiftLeft(lower).add(BigInteger.valueOf(half));
+            BigInteger q = new BigInteger(32 * half - 1, random);
+            checkQuotient(d.multiply(q).shiftLeft(32 * half).add(left), d);
+            BigInteger full = BigInteger.ONE.shiftLeft(32 * half).subtract(BigInteger.ONE);
+            checkQuotient(d.multiply(full).shiftLeft(32 * half).add(left), d);
+        }
+    }
+
+    private void quotientsOfExtremeWords() {
+        for (int round = 0; round < 20000; round++) {
+            BigInteger d = ofExtremeWords(1 + random.nextInt(5)).add(BigInteger.ONE);
+            checkQuotient(ofExtremeWords(1 + random.nextInt(9)), d);
+        }
+    }
+
+    private BigInteger ofExtremeWords(int count) {
+        BigInteger x = BigInteger.ZERO;
+        for (int i = 0; i < count; i++) {
+            long word = EXTREME_WORDS[random.nextInt(EXTREME_WORDS.length)];
+            x = x.shiftLeft(32).or(BigInteger.valueOf(word));
+        }
+        return x;
     }
 
     private void powersOfAllLengths() {
