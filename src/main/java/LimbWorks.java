@@ -200,8 +200,14 @@ public final class LimbWorks {
         return target.countBits();
     }
 
-    private static int bitsOf(int value) {
-        return 32 - Integer.numberOfLeadingZeros(value);
+    /** How many bits a word has, taken without a sign. */
+    private static int bitsOf(int word) {
+        int filled = word | word >>> 1;
+        filled |= filled >>> 2;
+        filled |= filled >>> 4;
+        filled |= filled >>> 8;
+        filled |= filled >>> 16;
+        return Integer.bitCount(filled);
     }
 
     private void feedWord(int bytes) {
@@ -307,7 +313,7 @@ public final class LimbWorks {
         int length = 0;
 
         int countBits() {
-            return length == 0 ? 0 : 32 * length - Integer.numberOfLeadingZeros(words[length - 1]);
+            return length == 0 ? 0 : 32 * (length - 1) + bitsOf(words[length - 1]);
         }
 
         void trim(int most) {
@@ -335,7 +341,7 @@ public final class LimbWorks {
             }
             for (int i = length - 1; i >= 0; i--) {
                 if (words[i] != b.words[i]) {
-                    return Integer.compareUnsigned(words[i], b.words[i]) < 0 ? -1 : 1;
+                    return (words[i] & LOW) < (b.words[i] & LOW) ? -1 : 1;
                 }
             }
             return 0;
@@ -694,24 +700,29 @@ public final class LimbWorks {
         /** The next word of a quotient, at times one too much: the divisor's two highest words alone are looked at. */
         private long guessWord(int n, int d, int dn) {
             long high = row[n + dn] & LOW;
-            long first = row[d + dn - 1] & LOW;
             long both = high << 32 | row[n + dn - 1] & LOW;
-            long guess = high >= first ? LOW : Long.divideUnsigned(both, first);
-            long left = both - guess * first;
+            long first = row[d + dn - 1] & LOW;
+            long guess = high < first ? shareOf(both, first) : LOW;
             if (dn == 1) {
                 return guess;
             }
-            long second = row[d + dn - 2] & LOW;
-            long third = row[n + dn - 2] & LOW;
-            // From the first word alone it may be two too much, but then the second tells.
-            boolean isTooMuch = left <= LOW && Long.compareUnsigned(guess * second, left << 32 | third) > 0;
-            return isTooMuch ? guess - 1 : guess;
+            // From the first word alone it may be two too much, but then the second takes far more than what is left.
+            long left = both - guess * first;
+            long taken = guess * (row[d + dn - 2] & LOW);
+            return taken >>> 32 > left ? guess - 1 : guess;
+        }
+
+        /** What both, taken as 64 bits without a sign, has of first, a word above 0, rounded down. */
+        private static long shareOf(long both, long first) {
+            // Java's division takes the highest bit for a sign, so half of both is shared out, and then the rest.
+            long share = (both >>> 1) / first << 1;
+            return both - share * first < first ? share : share + 1;
         }
 
         private boolean isNotLess(int a, int b, int count) {
             for (int i = count - 1; i >= 0; i--) {
                 if (row[a + i] != row[b + i]) {
-                    return Integer.compareUnsigned(row[a + i], row[b + i]) > 0;
+                    return (row[a + i] & LOW) > (row[b + i] & LOW);
                 }
             }
             return true;

@@ -24,6 +24,8 @@ public final class HardNumbersTest {
         test.quotientsOfMisleadingDivisors();
         test.quotientsFarTooMuch();
         test.quotientsOfExtremeWords();
+        test.quotientsOfTwoWords();
+        test.quotientsOfShortNumbers();
         test.powersOfAllLengths();
         test.rootsNextToPowers();
         Checks.finish("HardNumbersTest");
@@ -158,6 +160,52 @@ public final class HardNumbersTest {
             BigInteger d = ofExtremeWords(1 + random.nextInt(5)).add(BigInteger.ONE);
             checkQuotient(ofExtremeWords(1 + random.nextInt(9)), d);
         }
+    }
+
+    /** Two words over one, without signs: what the guess of a quotient's word is made of. */
+    private void quotientsOfTwoWords() {
+        for (int round = 0; round < 20000; round++) {
+            long a = random.nextLong() >>> (round % 3 == 0 ? random.nextInt(64) : 0);
+            long b = 1 + (random.nextInt() >>> random.nextInt(32) & 0xFFFFFFFFL);
+            checkShortQuotient(a, b);
+            // Just below, at and behind a whole quotient, odd or even.
+            long whole = Long.divideUnsigned(a, b) * b;
+            checkShortQuotient(whole, b);
+            checkShortQuotient(whole - 1, b);
+            checkShortQuotient(whole + b - 1, b);
+        }
+    }
+
+    private void checkShortQuotient(long a, long b) {
+        works.set(0, a);
+        works.set(1, b);
+        String name = "divide of " + Long.toUnsignedString(a) + " by " + b;
+        long quotient = Long.divideUnsigned(a, b);
+        Checks.due(name, 64 - Long.numberOfLeadingZeros(quotient), () -> works.divide(2, 3, 0, 1));
+        Checks.same(name + ": quotient", quotient, works.word(2, 1) << 32 | works.word(2, 0));
+        Checks.same(name + ": rest", Long.remainderUnsigned(a, b), works.word(3, 1) << 32 | works.word(3, 0));
+    }
+
+    /** Every dividend of three words over every divisor of two that the words at the edges make. */
+    private void quotientsOfShortNumbers() {
+        int kinds = EXTREME_WORDS.length;
+        for (int i = 0; i < kinds * kinds * kinds; i++) {
+            BigInteger a = ofChosenWords(i, 3);
+            for (int j = 1; j < kinds * kinds; j++) {
+                checkQuotient(a, ofChosenWords(j, 2));
+            }
+        }
+    }
+
+    /** Each digit of a choice, in a base of as many as there are words at the edges, chooses a word. */
+    private static BigInteger ofChosenWords(int choice, int count) {
+        BigInteger x = BigInteger.ZERO;
+        int left = choice;
+        for (int i = 0; i < count; i++) {
+            x = x.shiftLeft(32).or(BigInteger.valueOf(EXTREME_WORDS[left % EXTREME_WORDS.length]));
+            left /= EXTREME_WORDS.length;
+        }
+        return x;
     }
 
     private BigInteger ofExtremeWords(int count) {

@@ -12,8 +12,12 @@ public final class LanguageTest {
     private static final Set<String> IMPORTS = Set.of("java.util.Arrays", "java.util.NoSuchElementException");
     private static final List<String> FORBIDDEN = List.of("->", "::", "\\bfinally\\b", "\\bsynchronized\\b",
             "\\bassert\\b", "\\bprotected\\b", "\\bpackage\\b", "\\btry\\b", "Exact\\(", "\\bstatic \\{", "\\bString\\b",
-            "\\bSystem\\.(?!arraycopy\\()", "\\bArrays\\.(?!fill\\()", "\\bdouble\\b", "\\bfloat\\b",
-            "\\b(Integer|Long|Math)\\.[A-Z]");
+            "\\bdouble\\b", "\\bfloat\\b");
+
+    /** What rule 4 names, and no "like" of it, as far as the class could use it. */
+    private static final Set<String> LIBRARY = Set.of("Integer.bitCount(", "Integer.compare(", "Long.bitCount(",
+            "Long.compare(", "Math.max(", "Math.min(", "Math.abs(", "Math.floorDiv(", "Math.floorMod(",
+            "System.arraycopy(", "Arrays.copyOf(", "Arrays.copyOfRange(", "Arrays.fill(");
 
     private LanguageTest() {
     }
@@ -27,9 +31,21 @@ public final class LanguageTest {
         while (imports.find()) {
             Checks.same("import " + imports.group(1), true, IMPORTS.contains(imports.group(1)));
         }
+        checkLibrary(code.replaceAll("import .*", ""));
         checkStaticFields(code);
         checkMethods(code);
         Checks.finish("LanguageTest");
+    }
+
+    /** Rule 4: whatever stands behind a class's name and a dot, a method or a field, is named by the rule. */
+    private static void checkLibrary(String code) {
+        Matcher uses = Pattern.compile("\\b[A-Z]\\w*\\s*\\.\\s*\\w+\\(?").matcher(code);
+        int count = 0;
+        while (uses.find()) {
+            count++;
+            Checks.same("of the library: " + uses.group(), true, LIBRARY.contains(uses.group()));
+        }
+        Checks.same("uses of the library seen: " + count, true, count > 10);
     }
 
     private static void checkStaticFields(String code) {
