@@ -30,22 +30,27 @@ final class Numbers {
         return from == 0 ? 4 * part.length() : 0;
     }
 
-    /** Feeds a text and cuts off the noughts that fill the last twenty bytes. */
+    /** Feeds a text to an empty tape. Twenty bytes come at a time, so the last twenty are fed over some before them. */
     static void feedText(LimbWorks works, String text) {
-        int before = 0;
-        for (int from = 0; from < text.length(); from += 20) {
-            int[] five = new int[5];
-            for (int i = 0; i < 20; i++) {
-                int octet = from + i < text.length() ? text.charAt(from + i) & 0xFF : 0;
-                five[i / 4] = five[i / 4] << 8 | octet;
-            }
-            works.feed(five[0], five[1], five[2], five[3], five[4]);
-            before += 20;
+        int whole = text.length() / 20 * 20;
+        for (int from = 0; from < whole; from += 20) {
+            feedTwenty(works, text, from);
         }
-        if (before > text.length()) {
-            // The tape was empty before: the text alone stays.
+        if (whole < text.length()) {
+            int from = Math.max(0, text.length() - 20);
+            works.end(from);
+            feedTwenty(works, text, from);
             works.end(text.length());
         }
+    }
+
+    private static void feedTwenty(LimbWorks works, String text, int from) {
+        int[] five = new int[5];
+        for (int i = 0; i < 20; i++) {
+            int octet = from + i < text.length() ? text.charAt(from + i) & 0xFF : 0;
+            five[i / 4] = five[i / 4] << 8 | octet;
+        }
+        works.feed(five[0], five[1], five[2], five[3], five[4]);
     }
 
     static BigInteger value(LimbWorks works, int register) {
