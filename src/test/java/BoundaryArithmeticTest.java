@@ -87,7 +87,7 @@ public final class BoundaryArithmeticTest {
     private static void promise4RoundedDown() {
         BigInteger odd = GREATEST.shiftRight(199900);
         Scene scene = PLAIN.with(6, odd);
-        for (int n : new int[] {1, 31, 32, 33, 63, 64, 65, 95, 96, 97, 98, 99, 100, 101}) {
+        for (int n : new int[] {1, 31, 32, 33, 63, 64, 65, 95, 96, 97, 99, 100, 101, 128, 129, 160, 9999}) {
             scene.becomes("shift 100 ones by -" + n, 7, odd.shiftRight(n), works -> works.shift(7, 6, -n));
             scene.becomes("shift 100 ones in place by -" + n, 6, odd.shiftRight(n), works -> works.shift(6, 6, -n));
         }
@@ -95,7 +95,10 @@ public final class BoundaryArithmeticTest {
             SCENE.becomes("shift the greatest by -" + n, 7, GREATEST.shiftRight(n), works -> works.shift(7, 2, -n));
             SCENE.becomes("shift 2^199999 by -" + n, 7, power2(199999 - n), works -> works.shift(7, 3, -n));
         }
-        SCENE.becomes("shift 1 by -1", 7, 0, works -> works.shift(7, 1, -1));
+        for (int n : new int[] {1, 31, 32, 33, 64, 199999}) {
+            PLAIN.becomes("shift 0 by -" + n, 7, 0, works -> works.shift(7, 0, -n));
+            PLAIN.becomes("shift 1 by -" + n, 7, 0, works -> works.shift(7, 1, -n));
+        }
         SCENE.becomes("shift 2^1000 by -1000", 7, 1, works -> works.shift(7, 8, -1000));
         SCENE.becomes("shift 2^1000 by -1001", 7, 0, works -> works.shift(7, 8, -1001));
     }

@@ -18,6 +18,7 @@ public final class BoundaryRegistersTest {
 
     public static void main(String[] args) {
         promise1StateOfTheTerms();
+        promise1FirstCalls();
         promise2ValueWithoutASign();
         promise2SetOverTheGreatest();
         promise2RefusedRegisters();
@@ -45,9 +46,39 @@ public final class BoundaryRegistersTest {
         LimbWorks used = SCENE.make();
         new Scene().check("a new object beside a used one", new LimbWorks());
         SCENE.check("an object beside a new one", used);
-        new Scene().answers("the last word of a new object", 0, works -> works.word(9, 6249));
-        new Scene().takes("read on a new object", 0, new Scene(), works -> works.read(0, 10));
-        new Scene().takes("write on a new object", 1, new Scene().withOut("0"), works -> works.write(9, 2));
+    }
+
+    /** "makes an object in the state that the terms give.": each call takes its registers for 0, its tape for empty. */
+    private static void promise1FirstCalls() {
+        first("set", "0", new Scene(), works -> works.set(0, 0));
+        first("copy", "0", new Scene(), works -> works.copy(9, 0));
+        first("shift", "0", new Scene(), works -> works.shift(9, 0, 200000));
+        first("shift down", "0", new Scene(), works -> works.shift(9, 0, -1));
+        first("add", "0", new Scene(), works -> works.add(9, 0, 1));
+        first("subtract", "0", new Scene(), works -> works.subtract(9, 0, 1));
+        first("times", "0", new Scene(), works -> works.times(9, 0, 1));
+        first("divide", "ArithmeticException", new Scene(), works -> works.divide(9, 8, 0, 1));
+        first("power", "0", new Scene(), works -> works.power(9, 0, 1));
+        first("power 0", "1", new Scene().with(9, 1), works -> works.power(9, 0, 0));
+        first("root", "0", new Scene(), works -> works.root(9, 0, 2));
+        first("compare", "0", new Scene(), works -> works.compare(9, 0));
+        first("bits", "0", new Scene(), works -> works.bits(9));
+        first("word", "0", new Scene(), works -> works.word(9, 6249));
+        first("end", "0", new Scene(), works -> works.end(0));
+        first("end", "IllegalArgumentException", new Scene(), works -> works.end(1));
+        first("read", "0", new Scene(), works -> works.read(9, 2));
+        first("write", "1", new Scene().withOut("0"), works -> works.write(9, 2));
+        first("octet", "NoSuchElementException", new Scene(), works -> works.octet(0));
+    }
+
+    private static void first(String what, String outcome, Scene after, Scene.Call call) {
+        LimbWorks works = new LimbWorks();
+        Checks.same(what + " comes first", outcome, Checks.outcome(() -> call.on(works)));
+        after.check(what + " comes first", works);
+        LimbWorks other = new LimbWorks();
+        other.set(1, 0);
+        Checks.same(what + " comes behind set to 0", outcome, Checks.outcome(() -> call.on(other)));
+        Checks.due("a register is as one set to 0", 0, () -> other.compare(1, 7));
     }
 
     /** "value, taken as 64 bits without a sign; answers its bits." */

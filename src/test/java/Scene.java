@@ -3,7 +3,7 @@ import java.util.Arrays;
 import java.util.NoSuchElementException;
 
 /**
- * What an object holds: ten registers, the tape and out. A call is tried on an object made anew for it, and everything
+ * What an object holds: ten registers, the tape and out. A call is tried on an object made for it alone, and everything
  * that the object holds afterwards is looked at.
  */
 final class Scene {
@@ -94,18 +94,44 @@ final class Scene {
         after.check(what, works);
     }
 
+    /** An object that holds all this, and that held longer numbers, a longer tape and a longer out before. */
     LimbWorks make() {
         LimbWorks works = new LimbWorks();
+        fillRegisters(works);
+        fillTape(works);
         if (!out.isEmpty()) {
-            Numbers.plant(works, 8, 9, new BigInteger(out, MOST_BASE));
-            works.write(8, MOST_BASE);
+            works.shift(9, 1, -180000);
+            works.write(9, 2);
+            Numbers.plant(works, 9, 8, new BigInteger(out, MOST_BASE));
+            works.write(9, MOST_BASE);
         }
-        for (int r = 0; r < REGISTERS - 1; r++) {
-            Numbers.plant(works, r, REGISTERS - 1, registers[r]);
+        for (int r = 0; r < 8; r++) {
+            // A copy leaves more of the longer number that was there before than planting in its place would.
+            Numbers.plant(works, 9, 8, registers[r]);
+            works.copy(r, 9);
         }
-        works.set(REGISTERS - 1, registers[REGISTERS - 1].longValue());
+        Numbers.plant(works, 8, 9, registers[8]);
+        works.set(9, registers[9].longValue());
         Numbers.feedText(works, tape);
         return works;
+    }
+
+    /** Each register becomes the greatest number, and so does most of what is worked with inside. */
+    private static void fillRegisters(LimbWorks works) {
+        works.set(0, 1);
+        works.shift(1, 0, 199999);
+        works.subtract(2, 1, 0);
+        works.add(1, 1, 2);
+        works.power(3, 1, 1);
+        works.divide(4, 5, 1, 0);
+        for (int r = 0; r < REGISTERS; r++) {
+            works.copy(r, 1);
+        }
+    }
+
+    private static void fillTape(LimbWorks works) {
+        Numbers.feedText(works, "y".repeat(4096));
+        works.end(0);
     }
 
     /** Holds all that an object has against this scene; its tape is lost. */
