@@ -838,15 +838,7 @@ public final class LimbWorks {
                 bench.putQuotient(part, whole, part, lesser);
                 lengthen(root, more);
                 part.putMoved(a, -hidden);
-                boolean fits = false;
-                for (int i = 0; i < 4 && !fits; i++) {
-                    bench.putPower(lesser, root, n - 1);
-                    bench.putProduct(whole, n == 2 ? root : lesser, root);
-                    fits = whole.order(part) <= 0;
-                    if (!fits) {
-                        root.takeOne();
-                    }
-                }
+                lowerToFit(root, n, bench);
             }
         }
 
@@ -880,6 +872,20 @@ public final class LimbWorks {
             }
             root.putMoved(root, more);
             root.putSum(root, part);
+        }
+
+        /** Lowers the root until its power is not more than part; a step never goes more than one too far. */
+        private void lowerToFit(Natural root, int n, Bench bench) {
+            boolean fits = false;
+            for (int i = 0; i < 4 && !fits; i++) {
+                bench.putPower(lesser, root, n - 1);
+                // With n 2 lesser equals the root, but only one number given twice is known to be a square.
+                bench.putProduct(whole, n == 2 ? root : lesser, root);
+                fits = whole.order(part) <= 0;
+                if (!fits) {
+                    root.takeOne();
+                }
+            }
         }
     }
 }

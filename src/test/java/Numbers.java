@@ -111,7 +111,8 @@ final class Numbers {
             case 1:
                 return power.subtract(BigInteger.ONE.shiftLeft(bits / 2));
             case 2:
-                return BigInteger.ONE.shiftLeft(Math.max(0, bits - 1)).add(new BigInteger(Math.min(20, bits / 2), random));
+                BigInteger few = new BigInteger(Math.min(20, bits / 2), random);
+                return BigInteger.ONE.shiftLeft(Math.max(0, bits - 1)).add(few);
             case 3:
                 return runs(random, bits);
             default:

@@ -1,5 +1,6 @@
 import java.math.BigInteger;
 import java.util.Arrays;
+import java.util.NoSuchElementException;
 import java.util.Random;
 
 /**
@@ -308,7 +309,7 @@ public final class RandomRunsTest {
             }
         }
         Checks.same(name + " leaves out", out, Numbers.outText(works, out.length()));
-        Checks.thrown(name + " leaves no more", java.util.NoSuchElementException.class, () -> works.octet(out.length()));
+        Checks.thrown(name + " leaves no more", NoSuchElementException.class, () -> works.octet(out.length()));
         return name;
     }
 }

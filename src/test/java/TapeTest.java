@@ -91,7 +91,8 @@ public final class TapeTest {
         Checks.due("read empties the tape", 0, () -> works.end(0));
         Checks.thrown("read empties the tape", ARGUMENT, () -> works.end(1));
         for (int base = 2; base <= 36; base++) {
-            String text = Character.forDigit(base - 1, base) + "0" + "1".repeat(base) + BigInteger.TEN.pow(300).toString(base);
+            String text = Character.forDigit(base - 1, base) + "0" + "1".repeat(base)
+                    + BigInteger.TEN.pow(300).toString(base);
             int b = base;
             Numbers.feedText(works, text);
             Checks.due("read base " + base, new BigInteger(text, base).bitLength(), () -> works.read(2, b));
@@ -154,7 +155,8 @@ public final class TapeTest {
                 wrote("write " + base + "^" + n, works, 3, base, power.toString(base));
                 works.set(9, 1);
                 works.subtract(3, 3, 9);
-                wrote("write " + base + "^" + n + " - 1", works, 3, base, power.subtract(BigInteger.ONE).toString(base));
+                String before = power.subtract(BigInteger.ONE).toString(base);
+                wrote("write " + base + "^" + n + " - 1", works, 3, base, before);
             }
         }
         holds("write leaves the register", works, 1, x);
